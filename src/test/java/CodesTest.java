@@ -29,6 +29,7 @@ public final class CodesTest {
         sequenceAgrees();
         frameBits();
         aFaultLeavesNoPicture();
+        anOlderFileLeavesNoBoxes();
         check.end();
     }
 
@@ -146,6 +147,7 @@ public final class CodesTest {
         due("f is second", BRAND, made.build());
         made.brand = list(2, 'f', 3, 'f', 'v');
         due("v in the second f", BRAND, made.build());
+        due("v behind the content of f", BRAND, join(list(3, 'f', 'a', 'v', 'z'), new int[116]));
         due("boxes before brand", BOXES, list(3, 'g', 'v', 1));
     }
 
@@ -499,5 +501,41 @@ public final class CodesTest {
         check.due("clearing leaves the picture", 8, x.height());
         check.due("cleared", BRAND, x.decode());
         check.due("cleared: height", 0, x.height());
+    }
+
+    private static void dueNext(String what, int want, StillPicture x, int[] file) {
+        x.clear();
+        for (int b : file) {
+            x.add(b);
+        }
+        check.due(what, want, x.decode());
+    }
+
+    /** The same object decodes one file after the other; the boxes of the older one are no more. */
+    private static void anOlderFileLeavesNoBoxes() {
+        int[] plain = new FileMaker().build();
+        int[] missing = withProps(box('s', list(8, 8)), box('c', list(0)), box('a', list(7, 3, 1, 2, 3)));
+        StillPicture x = new StillPicture();
+        FileMaker made = new FileMaker();
+        made.more = list();
+        for (int more = 1; more <= 7; more++) {
+            made.more = join(made.more, list(2, 'z'));
+            dueNext(more + " boxes more", FINE, x, made.build());
+            dueNext("no property 3 behind " + more + " boxes more", ABSENT, x, missing);
+            dueNext("plain behind " + more + " boxes more", FINE, x, plain);
+        }
+        int[] inside = join(box('s', list(8, 8)), box('c', list(0)), box('a', list(7, 2, 1, 2)));
+        for (int more = 1; more <= 6; more++) {
+            inside = join(inside, list(2, 'm'));
+            dueNext(more + " stretches more", FINE, x, withProps(inside));
+            dueNext("no property 3 behind " + more + " stretches more", ABSENT, x, missing);
+            dueNext("plain behind " + more + " stretches more", FINE, x, plain);
+        }
+        dueNext("a stretch with a box", FINE, x, withProps(box('s', list(8, 8)), box('c', list(0)),
+            box('a', list(7, 2, 1, 2)), box('m', box('z', new int[9]))));
+        dueNext("plain behind a stretch with a box", FINE, x, plain);
+        // Only f is left: what the older file had behind it must not be found.
+        dueNext("f alone", ABSENT, x, list(3, 'f', 'v'));
+        dueNext("nothing", BRAND, x, list());
     }
 }

@@ -15,6 +15,7 @@ public final class PictureTest {
         treesAndBlocks();
         placesOfNumbers();
         scaledDifferences();
+        limitsOfNumbers();
         edgesAreSmoothed();
         edgesInsideABlockStay();
         samplesAreSoftened();
@@ -350,6 +351,24 @@ public final class PictureTest {
         check.due("great numbers: below", 0, x.sample(0, 0, 0));
         check.due("great numbers: above", 1023, x.sample(0, 1, 1));
         check.due("great numbers: beside", 512, x.sample(0, 2, 2));
+    }
+
+    /** Numbers that are limited and nearly cancelled, so that a limit of one more would be seen. */
+    private static void limitsOfNumbers() {
+        dueLimited("first, above", 5600, 2, -4528, 0, 33);
+        dueLimited("first, below", -5600, 2, 4505, 0, -38);
+        dueLimited("rows, above", 5400, 8, -3023, 1, 125);
+        dueLimited("rows, below", -5400, 8, 3032, 1, -121);
+    }
+
+    private static void dueLimited(String what, int first, int place, int other, int type, int want) {
+        int[] values = new int[16];
+        values[0] = first;
+        values[place] = other;
+        FileMaker made = maker(4, 4);
+        made.q = 1;
+        TileWriter tile = new TileWriter(false).symbol(0, 0).symbol(2, 0).symbol(10, type).numbers(0, values);
+        check.due("limit, " + what, 128 + want, fine("limit", made, tile).sample(0, 0, 0));
     }
 
     /** Two blocks, the second one brighter by d; across they lie side by side, else one below the other. */
