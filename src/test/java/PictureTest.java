@@ -1,4 +1,4 @@
-/** Promises 7 to 17: pictures whose answers were worked out by hand from the document. */
+/** Promises 7 to 17: pictures whose answers were worked out from the document, apart from the program. */
 public final class PictureTest {
     private static final Check check = new Check();
 
