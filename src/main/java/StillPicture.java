@@ -1040,13 +1040,14 @@ public final class StillPicture {
         int read() {
             coder.start(header.tileFrom, header.tileTo, header.isStill);
             picture.start(header.depth);
-            int side = 4;
-            for (int unit = 0; unit < UNITS; unit += side * side / 16) {
+            int next = 0;
+            for (int unit = 0; unit < UNITS; unit++) {
                 int x = 4 * (unit & 1) + 2 * (unit & 4);
                 int y = 2 * (unit & 2) + (unit & 8);
-                side = 4;
-                if (x < header.width && y < header.height) {
-                    side = readSide(unit);
+                // Units before the next one belong to the last block.
+                if (unit >= next && x < header.width && y < header.height) {
+                    int side = readSide(unit);
+                    next = unit + side * side / 16;
                     int number = readBlock(x, y, side);
                     for (int p = 0; p < header.planeCount; p++) {
                         if (!readUnits(p, x, y, number)) {

@@ -45,7 +45,6 @@ public final class CodesTest {
 
     /** "ends with the code told at the first thing that is not as it should be there" */
     private static void firstFaultIsTold() {
-        StillPicture x = new StillPicture();
         for (int mended = 0; mended <= CODES.length; mended++) {
             boolean[] has = new boolean[CODES.length];
             for (int fault = mended; fault < CODES.length; fault++) {
@@ -54,12 +53,14 @@ public final class CodesTest {
             int want = mended == CODES.length ? StillPicture.FINE : CODES[mended];
             int[] file = faulty(has);
             check.due(mended + " faults mended", want, FileMaker.load(file).decode());
-            x.clear();
+            StillPicture used = FileMaker.load(new FileMaker().build());
+            check.due("a plain file", StillPicture.FINE, used.decode());
+            used.clear();
             for (int b : file) {
-                x.add(b);
+                used.add(b);
             }
-            check.due(mended + " faults mended, the same object", want, x.decode());
-            check.due(mended + " faults mended: width", want == StillPicture.FINE ? 8 : 0, x.width());
+            check.due(mended + " faults mended, behind a plain file", want, used.decode());
+            check.due(mended + " faults mended: width", want == StillPicture.FINE ? 8 : 0, used.width());
         }
     }
 

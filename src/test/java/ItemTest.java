@@ -15,6 +15,7 @@ public final class ItemTest {
 
     public static void main(String[] args) {
         boxesThatMustBeThere();
+        firstBoxIsNoOther();
         firstBoxesAreMeant();
         contentOfP();
         itemIsAnyByte();
@@ -80,7 +81,19 @@ public final class ItemTest {
         due("no a", ABSENT, join(start, box('m', p, l, box('r', S, C))));
         due("a in m", ABSENT, join(start, box('m', p, l, box('r', S, C), box('a', list(7, 2, 1, 2)))));
         due("a in r in r", ABSENT, join(start, box('m', p, l, box('r', S, C, box('r', box('a', list(7, 2, 1, 2)))))));
-        due("m is no f", STREAM, join(start, box('f'), box('m', p, l, r)));
+        due("f again", STREAM, join(start, box('f'), box('m', p, l, r)));
+        due("a, s and c in the file and no r", ABSENT, join(start, S, C, box('a', list(7, 2, 2, 3)), box('m', p, l)));
+    }
+
+    /** The content of f would do for what is absent, but is not taken for it. */
+    private static void firstBoxIsNoOther() {
+        int[] p = box('p', list(7));
+        int[] l = box('l', list(1, 7, 0));
+        int[] r = box('r', S, C, box('a', list(7, 2, 1, 2)));
+        due("f for p", ABSENT, join(box('f', list(7, 'v')), box('m', l, r)));
+        due("f for l", ABSENT, join(box('f', list(1, 7, 0, 'v')), box('m', p, r)));
+        due("f for a", ABSENT, join(box('f', list(7, 2, 1, 2, 'v', 0)), box('m', p, l, box('r', S, C))));
+        due("f with all", STREAM, join(box('f', list(7, 2, 1, 2, 'v', 0)), box('m', p, l, r)));
     }
 
     /** "(the first such one is meant)", "(the first ones of these types are meant)" */
@@ -186,7 +199,10 @@ public final class ItemTest {
         }
         due("bytes behind the entries", FINE, withPlaces(1, 7, 1, DATA_AT, n, 1, 2, 3));
         due("what is behind l is not read", ABSENT, withPlaces(2, 8, 2, 1, 1, 2));
-        due("255 pairs of another are not there", ABSENT, withPlaces(2, 8, 255, 1, 1, 7, 1, DATA_AT, n));
+        due("255 pairs of another are not there", ABSENT, withPlaces(2, 8, 255, 7, 1, DATA_AT, n));
+        due("3 pairs of another, two there", ABSENT, withPlaces(2, 8, 3, 7, 1, DATA_AT, n));
+        due("2 pairs of another, which look like an entry", ABSENT, withPlaces(2, 8, 2, 7, 1, DATA_AT, n));
+        due("2 pairs of another, then the entry", FINE, withPlaces(2, 8, 2, 7, 1, 0, 0, 7, 1, DATA_AT, n));
         due("extents of others are free", FINE, withPlaces(2, 8, 1, 250, 250, 7, 1, DATA_AT, n));
         due("lengths of others are free", FINE, withPlaces(2, 8, 2, 0, 40, 0, 201, 7, 1, DATA_AT, n));
     }
