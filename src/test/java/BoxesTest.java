@@ -21,6 +21,7 @@ public final class BoxesTest {
         sixteenBoxes();
         sixteenBoxesInside();
         depthFour();
+        depthFourInTheFirstBox();
         brand();
         letters();
         olderBoxesAreGone();
@@ -217,6 +218,18 @@ public final class BoxesTest {
         due("a whole file of depth 5", BOXES, deep.build());
         deep.more = box('m', box('r', box('z', list(2, 'z'))));
         due("what looks like depth 5", FINE, deep.build());
+    }
+
+    /** Depth is counted from the file, also in its first box, which is no f then. */
+    private static void depthFourInTheFirstBox() {
+        int[] types = {'m', 'r'};
+        for (int type : types) {
+            String what = ", the first box is " + type;
+            due("depth 4" + what, BRAND, box(type, box(type, box(type, list(2, 'z')))));
+            due("depth 4, a stretch" + what, BRAND, box(type, box(type, box(type, box(type)))));
+            due("depth 5" + what, BOXES, box(type, box(type, box(type, box(type, list(2, 'z'))))));
+            due("depth 5, then f" + what, BOXES, join(box(type, box(type, box(type, box(type, list(2, 'z'))))), START));
+        }
     }
 
     /** "BRAND (2) unless there is a box in the file, the first one has type f, and its content has a byte v" */

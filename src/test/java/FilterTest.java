@@ -120,6 +120,7 @@ public final class FilterTest {
         edgesAcross();
         edgesDown();
         edgesBelowTheWidthAndTheHeight();
+        edgesOfAllShapes();
         edgesOfASmallerPicture();
         greatestPicture();
         edgesOfBlocksOnly();
@@ -224,6 +225,51 @@ public final class FilterTest {
                 due(what, x, 0, width, height, same(height, want));
                 StillPicture y = fine(what + ", turned", Painter.paint(maker(height, width, 1, 0, 0), turned(same(4, row))));
                 due(what + ", turned", y, 0, height, width, turned(same(height, want)));
+            }
+        }
+    }
+
+    /** Blocks of 4, each of them 4 more than the one to its left, or than the one above it. */
+    private static TileWriter steps(int width, int height, boolean isDown) {
+        TileWriter tile = new TileWriter(false).symbol(0, 1);
+        int[] step = new int[16];
+        step[0] = 4 * 4;
+        for (int unit = 0; unit < 16; unit++) {
+            int x = 4 * (unit % 2) + 8 * (unit / 4 % 2);
+            int y = 4 * (unit / 2 % 2) + 8 * (unit / 8);
+            if (x < width && y < height) {
+                if (unit % 4 == 0) {
+                    tile.symbol(1, 1);
+                }
+                // By mode 1 a block is as what is above it, in the first row as what is to its left.
+                tile.symbol(2 + (y > 0 ? 1 : 0) + (x > 0 ? 2 : 0), 1);
+                boolean isStep = isDown ? y > 0 : y == 0 && x > 0;
+                tile.numbers(0, isStep ? step : new int[16]);
+            }
+        }
+        return tile;
+    }
+
+    /** "for each x = 4, 8, 12 below the width and each y below the height", and the same exchanged, where both are great. */
+    private static void edgesOfAllShapes() {
+        int[] smooth = {128, 128, 128, 129, 131, 132, 132, 133, 135, 136, 136, 137, 139, 140, 140, 140};
+        for (int width = 1; width <= 16; width++) {
+            for (int height = 1; height <= 16; height++) {
+                for (int turn = 0; turn < 2; turn++) {
+                    FileMaker made = maker(width, height, 1, 0, 0);
+                    made.tile = steps(width, height, turn == 1).bytes();
+                    String what = width + " times " + height + ", turn " + turn;
+                    StillPicture x = fine(what, FileMaker.load(made.build()));
+                    // The last edge is smoothed only if there is a block behind it.
+                    int end = (turn == 1 ? height : width) - 1;
+                    for (int py = 0; py < height; py++) {
+                        for (int px = 0; px < width; px++) {
+                            int at = turn == 1 ? py : px;
+                            int want = at == end && at % 4 == 3 ? 128 + at / 4 * 4 : smooth[at];
+                            check.due(what + ": sample " + px + " " + py, want, x.sample(0, px, py));
+                        }
+                    }
+                }
             }
         }
     }

@@ -29,6 +29,7 @@ public final class ItemTest {
         extentAfterEachPair();
         dataInPieces();
         propertiesAreNumbered();
+        propertiesAreInTheStretchOfR();
         linksAreReadToTheirEnd();
         propertyNone();
         neededProperties();
@@ -39,6 +40,7 @@ public final class ItemTest {
         contentOfC();
         contentOfX();
         firstPropertiesAreMeant();
+        lastBoxOfAFullFile();
         check.end();
     }
 
@@ -383,6 +385,24 @@ public final class ItemTest {
         due("number 127, needed", ABSENT, withProps(S, C, a(7, 3, 1, 2, 255)));
     }
 
+    /** "the boxes in r's stretch": not those one deeper, nor those of a stretch behind r. */
+    private static void propertiesAreInTheStretchOfR() {
+        int[] z = box('z');
+        for (int type : list('m', 'r')) {
+            int[] deeper = box(type, z, z);
+            due("the stretch itself, " + type, FINE, withProps(S, C, deeper, a(7, 3, 1, 2, 3)));
+            due("a box one deeper, " + type, ABSENT, withProps(S, C, deeper, a(7, 3, 1, 2, 4)));
+            due("s one deeper, " + type, ABSENT, withProps(C, box(type, S), a(7, 2, 1, 3)));
+            FileMaker made = new FileMaker();
+            made.props = box('r', S, C, a(7, 3, 1, 2, 3));
+            made.more = deeper;
+            due("a box of a stretch behind r, " + type, ABSENT, made.build());
+            made.chosen = join(deeper, box('p', list(7)));
+            made.more = list();
+            due("a box of a stretch before r, " + type, ABSENT, made.build());
+        }
+    }
+
     /** "The content of a is read to its end: .. ABSENT if one of them is not there" */
     private static void linksAreReadToTheirEnd() {
         int[] whole = {7, 2, 1, 2, 9, 3, 5, 5, 5, 7, 0, 8, 0, 7, 1, 2};
@@ -442,6 +462,11 @@ public final class ItemTest {
         due("others between", FINE, withProps(S, C, a(7, 1, 2, 9, 2, 3, 255, 7, 1, 1)));
         due("others alone", ABSENT, withProps(S, C, a(9, 2, 1, 2)));
         due("one for another", ABSENT, withProps(S, C, a(7, 1, 1, 9, 1, 2)));
+        for (int other = 0; other < 256; other++) {
+            boolean isItem = other == 7;
+            due("a property that is not there, of " + other, isItem ? ABSENT : FINE, withProps(S, C, a(other, 1, 3, 7, 2, 1, 2)));
+            due("s and c, of " + other, isItem ? FINE : ABSENT, withProps(S, C, a(other, 2, 1, 2)));
+        }
         due("an entry without bytes", FINE, withProps(S, C, a(7, 0, 7, 2, 1, 2, 7, 0)));
         due("only an entry without bytes", ABSENT, withProps(S, C, a(7, 0)));
     }
@@ -514,5 +539,41 @@ public final class ItemTest {
         due("the first x by its byte", MISMATCH, withProps(S, C, x, otherX, a(7, 4, 1, 2, 4, 3)));
         due("the first x is too short", ABSENT, withProps(S, C, box('x', list(1)), x, a(7, 4, 1, 2, 3, 4)));
         due("the second x is too short", FINE, withProps(S, C, x, box('x', list(1)), a(7, 4, 1, 2, 3, 4)));
+    }
+
+    /** A file of 240 bytes with the data in f, whose last box is the last one of m. */
+    private static int[] full(int[]... inM) {
+        FileMaker made = new FileMaker();
+        int[] all = box('m', inM);
+        int[] data = join(list('v'), made.sequence(), made.frame());
+        return join(box('f', data, new int[240 - 2 - all.length - data.length]), all);
+    }
+
+    /** A byte of an empty box would be behind the file, and behind all the room there is for it. */
+    private static void lastBoxOfAFullFile() {
+        int[] p = box('p', list(7));
+        int[] l = box('l', list(1, 7, 1, 3, dataLength()));
+        int[] links = a(7, 3, 1, 2, 3);
+        int[] x = box('x', list(1, 8));
+        due("full, x last", FINE, full(p, l, box('r', links, S, C, x)));
+        due("full, x last and empty", ABSENT, full(p, l, box('r', links, S, C, box('x'))));
+        due("full, x last with one byte", ABSENT, full(p, l, box('r', links, S, C, box('x', list(1)))));
+        due("full, s last", FINE, full(p, l, box('r', links, x, C, S)));
+        due("full, s last and empty", ABSENT, full(p, l, box('r', links, x, C, box('s'))));
+        due("full, s last with one byte", ABSENT, full(p, l, box('r', links, x, C, box('s', list(8)))));
+        due("full, c last", FINE, full(p, l, box('r', links, x, S, C)));
+        due("full, c last and empty", ABSENT, full(p, l, box('r', links, x, S, box('c'))));
+        due("full, a last", FINE, full(p, l, box('r', x, S, C, links)));
+        due("full, a last and empty", ABSENT, full(p, l, box('r', x, S, C, a())));
+        due("full, a last with one byte", ABSENT, full(p, l, box('r', x, S, C, a(7))));
+        due("full, a last with a byte that is not there", ABSENT, full(p, l, box('r', x, S, C, a(7, 3, 1, 2))));
+        int[] r = box('r', links, S, C, x);
+        due("full, p last", FINE, full(r, l, p));
+        due("full, p last and empty", ABSENT, full(r, l, box('p')));
+        due("full, l last", FINE, full(r, p, l));
+        due("full, l last and empty", ABSENT, full(r, p, box('l')));
+        due("full, l last with one byte", ABSENT, full(r, p, box('l', list(1))));
+        due("full, l last with an entry of one byte", ABSENT, full(r, p, box('l', list(1, 7))));
+        due("full, l last with half a pair", ABSENT, full(r, p, box('l', list(1, 7, 1, 3))));
     }
 }

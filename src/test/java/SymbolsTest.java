@@ -9,8 +9,12 @@ public final class SymbolsTest {
         valueAgainstTheBoundsOfATable();
         emptyTile();
         bitsBehindTheEnd();
+        bytesBehindTheEnd();
+        tileToTheEndOfAllData();
         rangeIsDoubledWhileBelow();
         rangeOfOneBelow();
+        rangeOfOne();
+        symbolsThatCannotCome();
         tablesGrowAndFall();
         lastNumberStays();
         rateBehindFifteenSymbols();
@@ -44,6 +48,7 @@ public final class SymbolsTest {
         made.tile = tile.bytes();
         StillPicture x = fine(what, made);
         check.due(what + ": symbols", tile.symbols(), x.symbols());
+        check.due(what + ": taken", tile.taken(), x.taken());
         return x;
     }
 
@@ -143,6 +148,54 @@ public final class SymbolsTest {
         }
     }
 
+    /** The same where there are bytes behind the tile: of the data, of the file, or of an older file. */
+    private static void bytesBehindTheEnd() {
+        int[] bytes = {0xb7, 0x4d, 0xe1, 0x96, 0x5a, 0xc3};
+        for (int length = 0; length <= bytes.length; length++) {
+            FileMaker made = maker(16, 16);
+            made.tile = java.util.Arrays.copyOf(bytes, length);
+            StillPicture alone = fine("alone, " + length, made);
+            int[] file = made.build();
+            check.due("more is taken than there is, " + length, true, alone.taken() > 8 * length + 16);
+            StillPicture followed = FileMaker.load(FileMaker.join(file, ones(240 - file.length)));
+            check.due("bytes of the file behind it, " + length, StillPicture.FINE, followed.decode());
+            Answers.same(check, "bytes of the file behind it, " + length, Answers.of(alone), Answers.of(followed));
+            made.data = FileMaker.join(made.sequence(), made.frame(), ones(100));
+            StillPicture inside = fine("bytes of the data behind it, " + length, made);
+            Answers.same(check, "bytes of the data behind it, " + length, Answers.of(alone), Answers.of(inside));
+            inside.clear();
+            for (int b : file) {
+                inside.add(b);
+            }
+            check.due("bytes of an older file behind it, " + length, StillPicture.FINE, inside.decode());
+            Answers.same(check, "bytes of an older file behind it, " + length, Answers.of(alone), Answers.of(inside));
+        }
+    }
+
+    /** Data of 200 bytes, the most there can be, with a tile that is read to their end and beyond. */
+    private static void tileToTheEndOfAllData() {
+        FileMaker made = maker(16, 16);
+        made.brand = new int[] {3, 'f', 'v'};
+        made.still = 1;
+        made.layout = 1;
+        TileWriter tile = new TileWriter(true).symbol(0, 0).symbol(2, 0).symbol(6, 0);
+        for (int unit = 0; unit < 48; unit++) {
+            int second = unit < 16 ? 0 : 1;
+            tile.symbol(8 + second, 0).symbol(11 + second, 15);
+            for (int k = 15; k >= 0; k--) {
+                tile.symbol(13 + 3 * second + (k == 0 ? 0 : k <= 5 ? 1 : 2), 1).bit(0);
+            }
+        }
+        int[] cut = java.util.Arrays.copyOf(tile.bytes(), 200 - 4 - 3);
+        made.data = FileMaker.join(made.sequence(), FileMaker.lastUnit(6, made.frameBits(), cut));
+        check.due("all data: length", 200, made.data.length);
+        StillPicture x = fine("all data", made);
+        check.due("all data: more is taken than there is", true, x.taken() > 8 * cut.length + 16);
+        check.due("all data: blocks", 1, x.blocks());
+        // The sum of all numbers of the first unit, 2 and 15 times 1, by 4.
+        check.due("all data: first sample", 128 + 4, x.sample(0, 0, 0));
+    }
+
     /** "while RANGE is below 16384 it is doubled": not where it is 16384. */
     private static void rangeIsDoubledWhileBelow() {
         FileMaker made = maker(4, 4);
@@ -169,6 +222,70 @@ public final class SymbolsTest {
         StillPicture x = fine("one below", made);
         check.due("one below: symbols", 30, x.symbols());
         check.due("one below: taken", 64, x.taken());
+    }
+
+    /**
+     * Symbols 2 of SIZE for the places 6 to 15 of planes 1, 2, but for one that is another; ten to a unit.
+     * By 200 of them c0 and c1 fall until they are equal.
+     */
+    private static TileWriter manySizes(int units, int at, int other) {
+        TileWriter tile = new TileWriter(false).symbol(0, 0).symbol(2, 0).symbol(6, 0);
+        for (int unit = 0; unit < 16; unit++) {
+            tile.none(0);
+        }
+        int count = 0;
+        for (int unit = 0; unit < 32; unit++) {
+            if (unit >= units) {
+                tile.none(1);
+                continue;
+            }
+            tile.symbol(9, 0).symbol(12, 15);
+            for (int k = 15; k >= 6; k--) {
+                int symbol = count == at && tile.hasRoom(18, other) ? other : 2;
+                tile.symbol(18, symbol);
+                if (symbol != 0 || k == 15) {
+                    tile.bit(k & 1);
+                }
+                count++;
+            }
+            for (int k = 5; k >= 0; k--) {
+                tile.symbol(k == 0 ? 16 : 17, 0);
+            }
+        }
+        return tile;
+    }
+
+    private static StillPicture sizesRead(String what, TileWriter tile) {
+        FileMaker made = maker(16, 16);
+        made.layout = 1;
+        StillPicture x = fine(what, made, tile);
+        for (int t = 0; t < 19; t++) {
+            for (int i = 0; i < SIZES[t]; i++) {
+                check.due(what + ": c" + i + " of " + t, tile.table(t, i), x.table(t, i));
+            }
+        }
+        return x;
+    }
+
+    /** The least that RANGE can be: it is doubled 14 times. */
+    private static void rangeOfOne() {
+        long narrowest = 32768;
+        for (int at = 180; at < 200; at++) {
+            TileWriter tile = manySizes(22, at, 1);
+            sizesRead("a symbol 1 at " + at, tile);
+            narrowest = Math.min(narrowest, tile.narrowest());
+        }
+        check.due("narrowest", 1, narrowest);
+    }
+
+    /** "the symbol k is the least with VALUE < sk": where c0 and c1 are the same, 1 cannot be it. */
+    private static void symbolsThatCannotCome() {
+        for (int units = 20; units <= 32; units++) {
+            StillPicture x = sizesRead("no room for 1, " + units, manySizes(units, -1, 2));
+            dueTable("no room for 1, " + units, x, 18, 31, 31, 32737, 32768);
+        }
+        StillPicture x = sizesRead("no room for 1, then 0", manySizes(22, 205, 0));
+        check.due("no room for 1, then 0: c0 grows", true, x.table(18, 0) > 31);
     }
 
     /** "ci grows by (32768 - ci) >> e if i >= k, and falls by ci >> e otherwise"; "one more if n is more than 4" */

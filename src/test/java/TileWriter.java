@@ -11,6 +11,7 @@ final class TileWriter {
     private long range = 32768;
     private int bits = 15;
     private int symbols;
+    private long narrowest = 32768;
 
     TileWriter(boolean still) {
         this.still = still;
@@ -21,6 +22,25 @@ final class TileWriter {
 
     int symbols() {
         return symbols;
+    }
+
+    /** How many bits are taken for what was written. */
+    int taken() {
+        return bits;
+    }
+
+    long table(int t, int i) {
+        return tables[t][i];
+    }
+
+    /** The least that RANGE was before it was doubled. */
+    long narrowest() {
+        return narrowest;
+    }
+
+    /** Whether a symbol can come next: numbers of a table may be so near to each other that it cannot. */
+    boolean hasRoom(int t, int k) {
+        return range * tables[t][k] >> 15 > (k == 0 ? 0 : range * tables[t][k - 1] >> 15);
     }
 
     TileWriter symbol(int t, int k) {
@@ -42,6 +62,10 @@ final class TileWriter {
         long from = k == 0 ? 0 : range * table[k - 1] >> 15;
         low = low.add(BigInteger.valueOf(from));
         range = (range * table[k] >> 15) - from;
+        if (range <= 0) {
+            throw new IllegalStateException("there is no room for the symbol " + k);
+        }
+        narrowest = Math.min(narrowest, range);
         while (range < 16384) {
             range *= 2;
             low = low.shiftLeft(1);
