@@ -190,8 +190,13 @@ public final class BoxesTest {
         due("14 in r in m", BOXES, join(START, box('m', box('r', times(14, 2, 'z')))));
         due("7 in m and 6 in r", ABSENT, join(START, box('m', times(7, 2, 'z')), box('r', times(6, 2, 'z'))));
         due("7 in m and 7 in r", BOXES, join(START, box('m', times(7, 2, 'z')), box('r', times(7, 2, 'z'))));
-        due("12 m with none and r with one", ABSENT, join(START, times(13, 2, 'm'), box('r', list(2, 'z'))));
+        due("13 m with none and r with one", ABSENT, join(START, times(13, 2, 'm'), box('r', list(2, 'z'))));
         due("13 m with none and r with two", BOXES, join(START, times(13, 2, 'm'), box('r', times(2, 2, 'z'))));
+        for (int type : list('m', 'r')) {
+            due("box 16 is a stretch with none, " + type, ABSENT, join(START, times(14, 2, 'z'), box(type)));
+            due("box 16 is a stretch with one, " + type, BOXES, join(START, times(14, 2, 'z'), box(type, list(2, 'z'))));
+            due("box 16 is a stretch with a byte, " + type, BOXES, join(START, times(14, 2, 'z'), box(type, list(2))));
+        }
         // What only looks like boxes is not counted.
         due("40 in z", ABSENT, join(START, box('z', times(40, 2, 'z'))));
     }

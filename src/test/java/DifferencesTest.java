@@ -7,6 +7,14 @@ public final class DifferencesTest {
     private static final int[] PLACES = {0, 1, 4, 8, 5, 2, 3, 6, 9, 12, 13, 10, 7, 11, 14, 15};
     private static final int[] ANY = {5, -3, 2, 0, 7, 0, -1, 0, 0, 4, 0, 0, -6, 0, 0, 1};
 
+    /** What these numbers come to with Q 7, by TYPE. */
+    private static final int[][] BY_TYPE = {
+        {9, 7, 7, 7, 5, 9, 12, 21, -11, -12, -4, 2, 2, -3, -5, 0},
+        {15, 2, 1, 1, 24, -11, 2, -2, -13, -11, 4, 2, -4, 2, 5, -1},
+        {3, 0, 5, 15, 9, 12, 12, 9, 8, 3, -3, -8, -8, -11, -7, -10},
+        {11, -9, 6, 0, 22, 0, -3, 0, 0, 12, 0, 0, -19, 0, 0, 3},
+    };
+
     /**
      * TYPE, a sample, its difference, and the numbers at some places, with Q 1 and 10 bits, so chosen
      * that one of the numbers a, b, c, 2896 would not have to be greater or less by more than 1 to be seen.
@@ -101,6 +109,7 @@ public final class DifferencesTest {
         scaled();
         transformed();
         types();
+        typeOfEachBlock();
         limits();
         closeCalls("factor", FACTORS);
         closeCalls("limit", LIMITS);
@@ -476,16 +485,40 @@ public final class DifferencesTest {
 
     /** "For rows if TYPE & 1, for columns if TYPE & 2, is not 0" */
     private static void types() {
-        int[][] want = {
-            {9, 7, 7, 7, 5, 9, 12, 21, -11, -12, -4, 2, 2, -3, -5, 0},
-            {15, 2, 1, 1, 24, -11, 2, -2, -13, -11, 4, 2, -4, 2, 5, -1},
-            {3, 0, 5, 15, 9, 12, 12, 9, 8, 3, -3, -8, -8, -11, -7, -10},
-            {11, -9, 6, 0, 22, 0, -3, 0, 0, 12, 0, 0, -19, 0, 0, 3},
-        };
         for (int type = 0; type < 4; type++) {
             StillPicture x = of("TYPE " + type, 7, type, ANY);
-            dueUnit("TYPE " + type, x, want[type]);
+            dueUnit("TYPE " + type, x, BY_TYPE[type]);
             check.due("TYPE " + type, type, x.block(3, 3, 3));
+        }
+    }
+
+    /** Four blocks in a row, each of its own TYPE; each TYPE is that of the first block once. */
+    private static void typeOfEachBlock() {
+        for (int first = 0; first < 4; first++) {
+            TileWriter tile = new TileWriter(false).symbol(0, 1);
+            for (int b = 0; b < 4; b++) {
+                if (b % 2 == 0) {
+                    tile.symbol(1, 1);
+                }
+                tile.symbol(b == 0 ? 2 : 4, 1).symbol(10, (first + b) % 4).numbers(0, ANY);
+            }
+            FileMaker made = new FileMaker();
+            made.width = 16;
+            made.height = 4;
+            made.q = 7;
+            made.tile = tile.bytes();
+            StillPicture x = FileMaker.load(made.build());
+            check.due("types", StillPicture.FINE, x.decode());
+            for (int b = 0; b < 4; b++) {
+                int type = (first + b) % 4;
+                String what = "block " + b + " of TYPE " + type;
+                check.due(what, type, x.block(4 * b, 3, 3));
+                // By mode 1, in the first row, all are predicted as the sample to the left of the first.
+                int base = b == 0 ? 128 : x.sample(0, 4 * b - 1, 0);
+                for (int i = 0; i < 16; i++) {
+                    check.due(what + ": sample " + i, base + BY_TYPE[type][i], x.sample(0, 4 * b + i % 4, i / 4));
+                }
+            }
         }
     }
 

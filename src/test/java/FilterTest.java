@@ -125,6 +125,7 @@ public final class FilterTest {
         greatestPicture();
         edgesOfBlocksOnly();
         edgesOfBlocksOnlyDown();
+        edgesOfBlocksInEachQuarter();
         columnsThenRows();
         softenedPairs();
         softenedPairsOfTenBits();
@@ -229,25 +230,54 @@ public final class FilterTest {
         }
     }
 
-    /** Blocks of 4, each of them 4 more than the one to its left, or than the one above it. */
-    private static TileWriter steps(int width, int height, boolean isDown) {
+    /**
+     * Units each of which is 4 more than the one to its left, or than the one above it. The quarters of
+     * the picture whose bit is 1 in eights are one block of 8, the others four blocks of 4.
+     */
+    private static TileWriter steps(int width, int height, int eights, boolean isDown) {
         TileWriter tile = new TileWriter(false).symbol(0, 1);
         int[] step = new int[16];
         step[0] = 4 * 4;
         for (int unit = 0; unit < 16; unit++) {
             int x = 4 * (unit % 2) + 8 * (unit / 4 % 2);
             int y = 4 * (unit / 2 % 2) + 8 * (unit / 8);
+            boolean isEight = (eights >> unit / 4 & 1) == 1;
             if (x < width && y < height) {
                 if (unit % 4 == 0) {
-                    tile.symbol(1, 1);
+                    tile.symbol(1, isEight ? 0 : 1);
                 }
-                // By mode 1 a block is as what is above it, in the first row as what is to its left.
-                tile.symbol(2 + (y > 0 ? 1 : 0) + (x > 0 ? 2 : 0), 1);
+                // By mode 1 a unit is as what is above it, in the first row as what is to its left.
+                if (unit % 4 == 0 || !isEight) {
+                    tile.symbol(2 + (y > 0 ? 1 : 0) + (x > 0 ? 2 : 0), 1);
+                }
                 boolean isStep = isDown ? y > 0 : y == 0 && x > 0;
                 tile.numbers(0, isStep ? step : new int[16]);
             }
         }
         return tile;
+    }
+
+    /** "where x - 1, y and x, y are of different blocks", which may be otherwise in the next row or column. */
+    private static void edgesOfBlocksInEachQuarter() {
+        int[] smooth = {128, 128, 128, 129, 131, 132, 132, 133, 135, 136, 136, 137, 139, 140, 140, 140};
+        for (int eights = 0; eights < 16; eights++) {
+            for (int turn = 0; turn < 2; turn++) {
+                FileMaker made = maker(16, 16, 1, 0, 0);
+                made.tile = steps(16, 16, eights, turn == 1).bytes();
+                String what = "blocks of 8 by " + eights + ", turn " + turn;
+                StillPicture x = fine(what, FileMaker.load(made.build()));
+                for (int n = 0; n < 256; n++) {
+                    int px = n % 16;
+                    int py = n / 16;
+                    boolean isEight = (eights >> (px / 8 + py / 8 * 2) & 1) == 1;
+                    check.due(what + ": size", isEight ? 8 : 4, x.block(px, py, 0));
+                    int at = turn == 1 ? py : px;
+                    // The edge at 8 is one of all blocks, those at 4 and 12 are inside a block of 8.
+                    boolean isInside = isEight && at % 8 >= 3 && at % 8 <= 4;
+                    check.due(what + ": sample " + px + " " + py, isInside ? 128 + at / 4 * 4 : smooth[at], x.sample(0, px, py));
+                }
+            }
+        }
     }
 
     /** "for each x = 4, 8, 12 below the width and each y below the height", and the same exchanged, where both are great. */
@@ -257,7 +287,7 @@ public final class FilterTest {
             for (int height = 1; height <= 16; height++) {
                 for (int turn = 0; turn < 2; turn++) {
                     FileMaker made = maker(width, height, 1, 0, 0);
-                    made.tile = steps(width, height, turn == 1).bytes();
+                    made.tile = steps(width, height, 0, turn == 1).bytes();
                     String what = width + " times " + height + ", turn " + turn;
                     StillPicture x = fine(what, FileMaker.load(made.build()));
                     // The last edge is smoothed only if there is a block behind it.

@@ -14,10 +14,14 @@ public final class PredictionTest {
         besideBoth();
         besideBothOfTenBits();
         nearestInOrder();
+        nearestByOne();
+        nearestBesideOneSide();
         neighboursOutsideThePicture();
         roundedMeans();
         colourModes();
         shares();
+        sharesOfEachUnit();
+        planesAreApart();
         roundedShares();
         shareOfAMean();
         sharePredictionIsLimited();
@@ -179,6 +183,88 @@ public final class PredictionTest {
         check.due("A before C", 92, x.sample(0, 5, 5));
     }
 
+    /** The same with samples and a corner that need not be multiples of 4 apart. */
+    private static StillPicture aroundByOne(int[] above, int[] left, int corner, int mode) {
+        int[][] numbers = new int[3][16];
+        numbers[0][15] = Painter.numberFor(corner - 128, false);
+        for (int i = 0; i < 4; i++) {
+            numbers[1][12 + i] = Painter.numberFor(above[i] - corner, false);
+            numbers[2][4 * i + 3] = Painter.numberFor(left[i] - corner, false);
+        }
+        TileWriter tile = new TileWriter(false).symbol(0, 1).symbol(1, 1);
+        tile.symbol(2, 0).symbol(10, 3).numbers(0, numbers[0]);
+        tile.symbol(2, 2).symbol(10, 3).numbers(0, numbers[1]);
+        tile.symbol(2, 1).symbol(10, 3).numbers(0, numbers[2]);
+        tile.symbol(5, mode).symbol(10, 3).none(0);
+        FileMaker made = maker(8, 8);
+        made.q = 1;
+        StillPicture x = fine("around by one", made, tile);
+        check.due("around by one: corner", corner, x.sample(0, 3, 3));
+        for (int i = 0; i < 4; i++) {
+            check.due("around by one: above " + i, above[i], x.sample(0, 4 + i, 3));
+            check.due("around by one: left " + i, left[i], x.sample(0, 3, 4 + i));
+        }
+        return x;
+    }
+
+    private static int firstNearest(int aim, int... values) {
+        int found = values[0];
+        for (int value : values) {
+            if (Math.abs(value - aim) < Math.abs(found - aim)) {
+                found = value;
+            }
+        }
+        return found;
+    }
+
+    /** Each A and each L from 6 below C to 5 above it. */
+    private static void nearestByOne() {
+        for (int first = -6; first < 6; first += 4) {
+            for (int second = -6; second < 6; second += 4) {
+                int corner = 131;
+                int[] above = {corner + first, corner + first + 1, corner + first + 2, corner + first + 3};
+                int[] left = {corner + second, corner + second + 1, corner + second + 2, corner + second + 3};
+                StillPicture x = aroundByOne(above, left, corner, 3);
+                for (int n = 0; n < 16; n++) {
+                    int a = above[n % 4];
+                    int l = left[n / 4];
+                    int want = firstNearest(a + l - corner, l, a, corner);
+                    check.due("nearest of " + l + ", " + a + ", " + corner, want, x.sample(0, 4 + n % 4, 4 + n / 4));
+                }
+            }
+        }
+        int[] above = {130, 133, 136, 126};
+        int[] left = {134, 128, 129, 132};
+        // Told one by one, for the corner 131.
+        dueUnit("nearest, told", aroundByOne(above, left, 131, 3), 0, 4, 4,
+            134, 134, 136, 131, 128, 131, 131, 126, 129, 131, 136, 126, 131, 133, 136, 126);
+    }
+
+    /** "C, if x or y is 0, is A0 if y is not 0, else L0": so Ai + A0 - C is Ai, and Lj + L0 - C is Lj. */
+    private static void nearestBesideOneSide() {
+        for (int first = -3; first <= 3; first++) {
+            int[] side = {128 + first, 128, 127, 129};
+            int[] down = new int[16];
+            int[] across = new int[16];
+            for (int i = 0; i < 4; i++) {
+                down[12 + i] = Painter.numberFor(side[i] - 128, false);
+                across[4 * i + 3] = Painter.numberFor(side[i] - 128, false);
+            }
+            FileMaker high = maker(4, 8);
+            high.q = 1;
+            StillPicture x = fine("nearest below", high,
+                new TileWriter(false).symbol(0, 0).symbol(2, 3).symbol(10, 3).numbers(0, down).none(0));
+            FileMaker wide = maker(8, 4);
+            wide.q = 1;
+            StillPicture y = fine("nearest beside", wide,
+                new TileWriter(false).symbol(0, 0).symbol(2, 3).symbol(10, 3).numbers(0, across).none(0));
+            for (int n = 0; n < 16; n++) {
+                check.due("nearest below, " + first, side[n % 4], x.sample(0, n % 4, 4 + n / 4));
+                check.due("nearest beside, " + first, side[n / 4], y.sample(0, 4 + n % 4, n / 4));
+            }
+        }
+    }
+
     /** "its 16 samples (also those outside the picture)": what is beside a unit may be outside. */
     private static void neighboursOutsideThePicture() {
         int[] down = {122, 120, 120, 120, 121, 124};
@@ -279,6 +365,64 @@ public final class PredictionTest {
                     check.due(what + ", plane 2", want[second][i / 4], x.sample(2, i % 4, i / 4));
                 }
             }
+        }
+    }
+
+    /**
+     * Y and M are those of the unit itself, wherever it lies. Its samples in plane 0 are alike, but for
+     * one that is 8 above and one that is 8 below, so that the last row and column are flat in all planes.
+     */
+    private static void sharesOfEachUnit() {
+        int[] base = {128, 144, 112, 160};
+        int[][] places = {{0, 5}, {1, 6}, {4, 9}, {2, 8}};
+        FileMaker made = maker(8, 8);
+        made.layout = 1;
+        TileWriter tile = new TileWriter(false).symbol(0, 0).symbol(2, 0).symbol(6, 6).symbol(7, 5).symbol(7, 0);
+        for (int unit = 0; unit < 4; unit++) {
+            // Each unit is predicted as 128 in plane 0: the last one has 144 above and 112 beside it.
+            int[] luma = all(base[unit] - 128);
+            luma[places[unit][0]] += 8;
+            luma[places[unit][1]] -= 8;
+            tile.differences(0, luma);
+        }
+        for (int unit = 0; unit < 8; unit++) {
+            tile.none(1 + unit / 4);
+        }
+        StillPicture x = fine("shares of units", made, tile);
+        for (int unit = 0; unit < 4; unit++) {
+            int[][] want = {all(base[unit]), all(128), all(128)};
+            int high = places[unit][0];
+            int low = places[unit][1];
+            want[0][high] += 8;
+            want[0][low] -= 8;
+            // 18 and -14 by 4, for a share of 2; -22 and 26 by 4, for a share of -3.
+            want[1][high] += 4;
+            want[1][low] -= 4;
+            want[2][high] -= 6;
+            want[2][low] += 6;
+            for (int p = 0; p < 3; p++) {
+                dueUnit("shares of unit " + unit + ", plane " + p, x, p, unit % 2 * 4, unit / 2 * 4, want[p]);
+            }
+        }
+    }
+
+    /** The last samples of a plane and the first ones of the next, in a picture that fills all its room. */
+    private static void planesAreApart() {
+        int[] least = new int[16];
+        int[] most = new int[16];
+        least[0] = -4 * 20;
+        most[0] = 4 * 40;
+        FileMaker made = maker(16, 16);
+        made.layout = 1;
+        TileWriter tile = new TileWriter(false).symbol(0, 0).symbol(2, 0).symbol(6, 0);
+        for (int unit = 0; unit < 48; unit++) {
+            tile.numbers(unit / 16, unit % 16 == 0 ? least : unit % 16 == 15 ? most : new int[16]);
+        }
+        StillPicture x = fine("planes", made, tile);
+        for (int p = 0; p < 3; p++) {
+            dueUnit("first unit of plane " + p, x, p, 0, 0, all(108));
+            dueUnit("a unit of plane " + p, x, p, 8, 12, all(108));
+            dueUnit("last unit of plane " + p, x, p, 12, 12, all(148));
         }
     }
 

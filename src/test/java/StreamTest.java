@@ -31,6 +31,7 @@ public final class StreamTest {
         strengthOnlyIfSoft();
         restOfTheLastByte();
         tileOfTheUnit();
+        unitsInOrderBehindAFault();
         check.end();
     }
 
@@ -119,6 +120,14 @@ public final class StreamTest {
         due("third byte 128", STREAM, sequence(), list(50, 130, 128, 128), bits);
         due("third byte 255", STREAM, sequence(), list(50, 130, 128, 255), bits);
         due("size 0, third byte 128", STREAM, list(18, 128, 128, 128), sequence(), frame());
+        // However many of the bytes behind it were taken for the unit, what follows would be in order.
+        for (int more = 0; more < 130; more++) {
+            due("third byte 128, then " + more, STREAM, list(18, 128 + more % 128, 128 + more / 128, 128), new int[more], sequence(), frame());
+            due("no third byte, " + more, FINE, list(18, 128 + more % 128, more / 128), new int[more], sequence(), frame());
+        }
+        for (int more = 0; more < 30; more++) {
+            due("third byte 129, then " + more, STREAM, list(18, 129, 128, 129), new int[more], sequence(), frame());
+        }
     }
 
     /** "STREAM if a byte is not there" */
@@ -466,5 +475,38 @@ public final class StreamTest {
         check.due("to the end", FINE, open.decode());
         check.due("to the end: taken", two.taken(), open.taken());
         check.due("to the end: symbols", two.symbols(), open.symbols());
+    }
+
+    /** A unit with a fault ends the decoding, also where all that follows is in order. */
+    private static void unitsInOrderBehindAFault() {
+        FileMaker wide = new FileMaker();
+        wide.width = 9;
+        dueBefore("a head of 128 with a size", STREAM, list(130, 0));
+        dueBefore("a feature in the head", FEATURE, list(22, 0));
+        dueBefore("a sequence without bytes", STREAM, FileMaker.unit(1));
+        dueBefore("a sequence of one byte", STREAM, FileMaker.unit(1, list(0)));
+        dueBefore("a sequence of layout 2", FEATURE, FileMaker.unit(1, list(128, 0)));
+        dueBefore("a sequence with the first of two bits", FEATURE, FileMaker.unit(1, FileMaker.bits(0, 0, 3, 7, 4, 7, 4, 2, 2, 0, 1)));
+        dueBefore("a sequence with the second of two bits", FEATURE, FileMaker.unit(1, FileMaker.bits(0, 0, 3, 7, 4, 7, 4, 1, 2, 0, 1)));
+        dueBefore("a sequence of other width", MISMATCH, wide.sequence());
+        dueBefore("no fault", FINE, FileMaker.unit(2, list(255)));
+        dueBehind("a frame without bytes", STREAM, FileMaker.unit(6));
+        dueBehind("a frame of one byte", STREAM, FileMaker.unit(6, list(0)));
+        for (int three = 1; three < 8; three++) {
+            dueBehind("a frame with first bits " + three, FEATURE, FileMaker.unit(6, list(three << 5, 0)));
+        }
+        dueBehind("no fault", FINE, FileMaker.unit(2, list(255)));
+        due("a frame, then sequence and frame", STREAM, frame(), sequence(), frame());
+        due("a frame without bytes, then sequence and frame", STREAM, FileMaker.unit(6), sequence(), frame());
+    }
+
+    private static void dueBefore(String what, int want, int[] unit) {
+        due(what + ", first", want, unit, sequence(), frame());
+        dueBehind(what, want, unit);
+    }
+
+    private static void dueBehind(String what, int want, int[] unit) {
+        due(what + ", behind a sequence", want, sequence(), unit, frame());
+        due(what + ", behind a sequence and before one", want, sequence(), unit, sequence(), frame());
     }
 }

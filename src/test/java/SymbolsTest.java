@@ -47,9 +47,13 @@ public final class SymbolsTest {
     private static StillPicture fine(String what, FileMaker made, TileWriter tile) {
         made.tile = tile.bytes();
         StillPicture x = fine(what, made);
+        dueWritten(what, x, tile);
+        return x;
+    }
+
+    private static void dueWritten(String what, StillPicture x, TileWriter tile) {
         check.due(what + ": symbols", tile.symbols(), x.symbols());
         check.due(what + ": taken", tile.taken(), x.taken());
-        return x;
     }
 
     private static int[] ones(int count) {
@@ -172,28 +176,39 @@ public final class SymbolsTest {
         }
     }
 
-    /** Data of 200 bytes, the most there can be, with a tile that is read to their end and beyond. */
+    /** Data of 200 bytes, the most there can be, with a tile that is read to their end. */
     private static void tileToTheEndOfAllData() {
+        int ending = 0;
+        for (int more = 0; more < 60; more++) {
+            // Units that are full of numbers, and two by which the tile is somewhat longer or shorter.
+            TileWriter tile = new TileWriter(true).symbol(0, 0).symbol(2, 0).symbol(6, 0);
+            for (int unit = 0; unit < 48; unit++) {
+                int[] numbers = new int[16];
+                java.util.Arrays.fill(numbers, unit < 28 ? 1 : 0);
+                numbers[0] = unit == 28 ? 1 << more % 12 : numbers[0];
+                numbers[more / 12] = unit == 29 ? 1 : numbers[more / 12];
+                tile.numbers(unit / 16, numbers);
+            }
+            int[] bytes = tile.bytes();
+            StillPicture x = fine("all data, " + more, fullData(java.util.Arrays.copyOf(bytes, 193)));
+            if (bytes.length == 193) {
+                ending++;
+                dueWritten("all data, " + more, x, tile);
+            }
+        }
+        check.due("some tiles end with the data", true, ending > 4);
+        StillPicture x = fine("all data, ones", fullData(ones(193)));
+        check.due("all data, ones: blocks", 16, x.blocks());
+    }
+
+    private static FileMaker fullData(int[] tile) {
         FileMaker made = maker(16, 16);
         made.brand = new int[] {3, 'f', 'v'};
         made.still = 1;
         made.layout = 1;
-        TileWriter tile = new TileWriter(true).symbol(0, 0).symbol(2, 0).symbol(6, 0);
-        for (int unit = 0; unit < 48; unit++) {
-            int second = unit < 16 ? 0 : 1;
-            tile.symbol(8 + second, 0).symbol(11 + second, 15);
-            for (int k = 15; k >= 0; k--) {
-                tile.symbol(13 + 3 * second + (k == 0 ? 0 : k <= 5 ? 1 : 2), 1).bit(0);
-            }
-        }
-        int[] cut = java.util.Arrays.copyOf(tile.bytes(), 200 - 4 - 3);
-        made.data = FileMaker.join(made.sequence(), FileMaker.lastUnit(6, made.frameBits(), cut));
+        made.data = FileMaker.join(made.sequence(), FileMaker.lastUnit(6, made.frameBits(), tile));
         check.due("all data: length", 200, made.data.length);
-        StillPicture x = fine("all data", made);
-        check.due("all data: more is taken than there is", true, x.taken() > 8 * cut.length + 16);
-        check.due("all data: blocks", 1, x.blocks());
-        // The sum of all numbers of the first unit, 2 and 15 times 1, by 4.
-        check.due("all data: first sample", 128 + 4, x.sample(0, 0, 0));
+        return made;
     }
 
     /** "while RANGE is below 16384 it is doubled": not where it is 16384. */
