@@ -26,6 +26,7 @@ public final class SymbolsTest {
         oneBlockForAll();
         orderOfTrees();
         tableOfAMode();
+        tableOfAModeByTheNextBlock();
         whatABlockReads();
         unitsOfABlock();
         check.end();
@@ -595,6 +596,33 @@ public final class SymbolsTest {
         upper.symbol(1, 1).symbol(2, 0).none(0).symbol(2, 0).none(0).symbol(2, 0).none(0).symbol(2, 4).none(0);
         upper.symbol(1, 0).symbol(2, 1).none(0).none(0).none(0).none(0);
         check.due("beside the upper of two", 1, fine("upper", maker(16, 8), upper).block(8, 0, 1));
+    }
+
+    /** Four blocks in a row or in a column, with mode 0 or not: only the one right before each counts. */
+    private static void tableOfAModeByTheNextBlock() {
+        for (int kinds = 0; kinds < 16; kinds++) {
+            for (int turn = 0; turn < 2; turn++) {
+                TileWriter tile = new TileWriter(false).symbol(0, 1);
+                int before = 0;
+                for (int b = 0; b < 4; b++) {
+                    if (b % 2 == 0) {
+                        tile.symbol(1, 1);
+                    }
+                    int mode = (kinds >> b & 1) == 1 ? b + 1 : 0;
+                    tile.symbol(before == 0 ? 2 : turn == 1 ? 3 : 4, mode).none(0);
+                    before = mode;
+                }
+                String what = "modes " + kinds + ", turn " + turn;
+                StillPicture x = fine(what, turn == 1 ? maker(4, 16) : maker(16, 4), tile);
+                for (int b = 0; b < 4; b++) {
+                    int want = (kinds >> b & 1) == 1 ? b + 1 : 0;
+                    check.due(what + ": block " + b, want, turn == 1 ? x.block(2, 4 * b, 1) : x.block(4 * b, 2, 1));
+                }
+                for (int t = 2; t <= 5; t++) {
+                    check.due(what + ": table " + t, tile.table(t, 0), x.table(t, 0));
+                }
+            }
+        }
     }
 
     /** "With three planes a symbol of COLOUR"; "if that is 6, two symbols of SHARE"; "If Q is not 0, a symbol of TYPE" */
